@@ -639,6 +639,17 @@ public final class PromisesTest {
         faulty("tim 1-2;", 1, 0);
         faulty("tonE 1-2;", 1, 0);
         faulty("ch an 1-2;", 1, 0);
+        // The first and last letters and digits, and the signs beside them.
+        for (String letter : new String[] {"a", "z", "A", "Z"}) {
+            faulty("chan" + letter + " 1-2;", 1, 0);
+            faulty(letter + "chan 1-2;", 1, 0);
+        }
+        for (String sign : new String[] {"@", "[", "`", "{", "/", ":", ",", ".", "<"}) {
+            faulty("chan" + sign + " 1-2;", 1, 4);
+            faulty("chan 1" + sign + "-2;", 1, 6);
+            faulty("chan 1-2" + sign, 1, 8);
+        }
+        faulty("chan 1-" + (char) ('2' + 256 - 128) + ";", 1, 7);
         faulty("5;", 1, 0);
         faulty(";", 1, 0);
         faulty("  -", 1, 2);

@@ -536,6 +536,9 @@ public final class AirWatch {
         }
 
         private void add(Marks marks, int mark) {
+            if (count >= own.length) {
+                return;
+            }
             own[count] = mark;
             count++;
             channel = marks.spans.channel[mark];

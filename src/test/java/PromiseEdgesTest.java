@@ -36,6 +36,7 @@ public final class PromiseEdgesTest {
         slot();
         about();
         questionsChangeNothing();
+        lastCall();
         Check.finish();
     }
 
@@ -643,5 +644,24 @@ public final class PromiseEdgesTest {
         View.whole(asked).dueAs("asked first", View.whole(Scenes.some()));
         Watch empty = Scenes.empty();
         View.questions(empty).dueAs("asked twice, at first", View.questions(empty));
+    }
+
+    private static void lastCall() {
+        Edge.sentence("An object is used for at most 512 calls after it has been made");
+        Watch refusing = Scenes.empty();
+        for (int i = 1; i < 512; i++) {
+            Edge.due("call " + i, refusing.post(32, 32), NONE);
+        }
+        Edge.due("the 512th call", refusing.post(31, 31), 0);
+        Watch changing = Scenes.empty();
+        for (int i = 1; i < 512; i++) {
+            changing.joins(i % 100, i);
+        }
+        Edge.due("the 512th call, behind 511 changes", changing.about(5), 511);
+        Watch sweeping = Scenes.empty();
+        for (int i = 1; i < 512; i++) {
+            Edge.due("sweep " + i, sweeping.sweep(0xFFFF, i, 4, 240), 4 * (i + 1) + 6 * 240);
+        }
+        Edge.due("the 512th call, behind 511 SWEEPS", sweeping.slot(3), 3);
     }
 }

@@ -297,6 +297,16 @@ public final class FitEdgesTest {
             }
             Edge.due("best(" + k + ", 0)", w.best(k, 0), k);
         }
+        // Asked for one behind the other, without a question about the same SENDER between.
+        for (int k : order) {
+            Edge.due("best(" + k + ", 0) in turn", w.best(k, 0), k);
+        }
+        for (int k : order) {
+            Edge.due("best(" + k + ", 1) in turn", w.best(k, 1), 0);
+        }
+        for (int k : order) {
+            Edge.due("fits(" + k + ", 1) in turn", w.fits(k, 1), answers[k][1]);
+        }
         Edge.due("wanderers", w.wanderers(), 0);
     }
 

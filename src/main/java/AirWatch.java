@@ -821,8 +821,8 @@ public final class AirWatch {
             boolean all = true;
             for (int y = 0; y < SIDE; y++) {
                 int inside = allows(licence, BOX_Y, y, y) ? fields[y] & columns : 0;
-                some |= inside != 0;
-                all &= inside == fields[y];
+                some = some || inside != 0;
+                all = all && inside == fields[y];
             }
             if (!some) {
                 return 4;

@@ -68,6 +68,15 @@ public final class FaceTest {
         Check.due("a public final class", Modifier.isPublic(kind) && Modifier.isFinal(kind), true);
     }
 
+    private static boolean isCall(String name) {
+        for (String method : METHODS) {
+            if (method.contains(" " + name + "(")) {
+                return true;
+            }
+        }
+        return false;
+    }
+
     private static void inside() {
         Class<?>[] all = AirWatch.class.getDeclaredClasses();
         Check.due("at most twelve classes", all.length <= 12, true);
@@ -82,6 +91,7 @@ public final class FaceTest {
             Check.due("static " + one, Modifier.isStatic(one.getModifiers()), true);
             Check.due("not open " + one, Modifier.isPublic(one.getModifiers()), false);
             for (Method m : one.getDeclaredMethods()) {
+                Check.due("named as a call: " + m, isCall(m.getName()), false);
                 Check.due("at most seven arguments of " + m, m.getParameterCount() <= 7, true);
             }
         }
